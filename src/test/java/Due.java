@@ -1,0 +1,57 @@
+/** Counts the calls whose answer is not the one that is due. */
+final class Due {
+    private int calls;
+    private int wrong;
+
+    void is(String call, long got, long want) {
+        calls++;
+        if (got != want) {
+            wrong++;
+            System.out.println(call + " answered " + got + ", due is " + want);
+        }
+    }
+
+    /** Every answer of a row of equal calls, which are told by one name. */
+    void are(String calls, int[] got, int... want) {
+        is(calls + ", how many", got.length, want.length);
+        for (int i = 0; i < Math.min(got.length, want.length); i++) {
+            is(calls + ", the one numbered " + i, got[i], want[i]);
+        }
+    }
+
+    void holds(String what, boolean isSo) {
+        is(what, isSo ? 1 : 0, 1);
+    }
+
+    void end() {
+        System.out.println(calls + " answers, " + wrong + " not as due");
+        if (wrong != 0 || calls == 0) {
+            System.exit(1);
+        }
+    }
+
+    static LetterNeedles laid(String text) {
+        LetterNeedles x = new LetterNeedles();
+        writeAll(x, text);
+        if (x.lay() < 1) {
+            throw new IllegalStateException("not laid: " + text);
+        }
+        return x;
+    }
+
+    static void writeAll(LetterNeedles x, String text) {
+        for (int i = 0; i < text.length(); i++) {
+            x.write(text.charAt(i));
+        }
+    }
+
+    static int faultOf(String text) {
+        LetterNeedles x = new LetterNeedles();
+        writeAll(x, text);
+        return x.fault();
+    }
+
+    static int sign(char letter) {
+        return "ABDEFGHIKLMNOPRSTVWY".indexOf(letter);
+    }
+}
