@@ -622,16 +622,21 @@ public final class LetterNeedles {
             // the WIRES carry the same in each of these BEATS
             carrySign(sign);
             for (int beat = 0; beat < beats; beat++) {
-                moveNeedles();
+                for (int p = 0; p < PLACES; p++) {
+                    stands[p] = standing(kinds[p], carried[p], aheadOf(p), got[p], stands[p]);
+                    got[p] = carried[p];
+                }
             }
             return readSign();
         }
 
         void carrySign(int sign) {
             for (int p = 0; p < PLACES; p++) {
-                carried[p] = bears(p, POINTING[sign * PLACES + p]);
+                int given = POINTING[sign * PLACES + p];
+                int borne = bitAt(turnedWires, p) == 1 ? otherWay(given) : given;
+                carried[p] = bitAt(cutWires, p) == 1 ? 0 : borne;
             }
-            for (int p = 0; p < PLACES && touching != 0; p++) {
+            for (int p = 0; p < LAST_PLACE && touching != 0; p++) {
                 boolean isFirst = p == 0 || bitAt(touching, p - 1) == 0;
                 if (isFirst && bitAt(touching, p) == 1) {
                     shareFrom(p);
@@ -639,16 +644,10 @@ public final class LetterNeedles {
             }
         }
 
-        private int bears(int p, int given) {
-            if (bitAt(cutWires, p) == 1) {
-                return 0;
-            }
-            return bitAt(turnedWires, p) == 1 ? otherWay(given) : given;
-        }
-
+        /** The WIRES that are together from this one on, of which each still has what it bears. */
         private void shareFrom(int first) {
             int last = first;
-            while (last < LAST_PLACE && bitAt(touching, last) == 1) {
+            while (last < LAST_PLACE && (touching & 1 << last) != 0) {
                 last++;
             }
             int surplus = 0;
@@ -658,14 +657,7 @@ public final class LetterNeedles {
             }
             int shared = surplus > 0 ? RIGHT : surplus < 0 ? LEFT : 0;
             for (int p = first; p <= last; p++) {
-                carried[p] = bitAt(cutWires, p) == 1 ? 0 : shared;
-            }
-        }
-
-        private void moveNeedles() {
-            for (int p = 0; p < PLACES; p++) {
-                stands[p] = standing(kinds[p], carried[p], aheadOf(p), got[p], stands[p]);
-                got[p] = carried[p];
+                carried[p] = (cutWires & 1 << p) != 0 ? 0 : shared;
             }
         }
 

@@ -212,7 +212,7 @@ public final class DeedsTest {
     private static void undoRestoresAll() {
         LetterNeedles x = Due.laid("n0,5;n1,1;n2,2;c3;t4;j1;mA;");
         x.send(Due.sign('H'));
-        String ahead = all(x);
+        String ahead = Due.all(x);
         x.cut(0);
         x.turn(1);
         x.touch(2);
@@ -220,17 +220,9 @@ public final class DeedsTest {
         x.change(0, 4);
         x.send(7);
         for (int left = 6; left >= 1; left--) due.is("undo()", x.undo(), left);
-        due.holds("all is as it was", all(x).equals(ahead));
+        due.holds("all is as it was", Due.all(x).equals(ahead));
         due.is("undo() of the first", x.undo(), 0);
         due.is("at rest again", x.reads(), 30);
-    }
-
-    private static String all(LetterNeedles x) {
-        StringBuilder b = new StringBuilder();
-        for (int p = 0; p < 5; p++) {
-            for (int what = 0; what < 3; what++) b.append(x.needle(p, what)).append(x.wire(p, what)).append(' ');
-        }
-        return b.toString();
     }
 
     private static void undoneIsNothingRefused() {

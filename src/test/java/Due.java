@@ -51,6 +51,15 @@ final class Due {
         return x.fault();
     }
 
+    /** All that can be asked of NEEDLES and WIRES. */
+    static String all(LetterNeedles x) {
+        StringBuilder b = new StringBuilder();
+        for (int p = 0; p < 5; p++) {
+            for (int what = 0; what < 3; what++) b.append(x.needle(p, what)).append(x.wire(p, what)).append(' ');
+        }
+        return b.toString();
+    }
+
     static int sign(char letter) {
         return "ABDEFGHIKLMNOPRSTVWY".indexOf(letter);
     }

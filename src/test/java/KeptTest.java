@@ -41,7 +41,7 @@ public final class KeptTest {
     private static void backBringsAll() {
         LetterNeedles x = Due.laid("n0,5;n1,1;n2,2;c3;t4;j1;mA;");
         x.send(Due.sign('H'));
-        String ahead = all(x);
+        String ahead = Due.all(x);
         x.keep();
         x.see(1, 1);
         x.hear(1);
@@ -51,19 +51,11 @@ public final class KeptTest {
         x.mend(3);
         x.change(0, 4);
         x.send(7);
-        due.holds("much is otherwise", !all(x).equals(ahead));
+        due.holds("much is otherwise", !Due.all(x).equals(ahead));
         due.is("back()", x.back(), 0);
-        due.holds("all is as it was", all(x).equals(ahead));
+        due.holds("all is as it was", Due.all(x).equals(ahead));
         due.is("what is SEEN stays", x.count(7), 1);
         due.is("what is HEARD stays", x.count(8), 1);
-    }
-
-    private static String all(LetterNeedles x) {
-        StringBuilder b = new StringBuilder();
-        for (int p = 0; p < 5; p++) {
-            for (int what = 0; what < 3; what++) b.append(x.needle(p, what)).append(x.wire(p, what)).append(' ');
-        }
-        return b.toString();
     }
 
     private static void count() {

@@ -87,6 +87,12 @@ public final class ReadingTest {
         x = Due.laid("c0;mA;");
         int[] alike = {29, 0, 28, 1, 27, 3, 26, 6, 21, 10, 22, 14, 23, 17, 24, 19, 30, 20, 25, 20, 2, 2, 9, 9};
         for (int i = 0; i < alike.length; i += 2) due.is("cut: like(" + alike[i] + ")", x.like(alike[i]), alike[i + 1]);
+        // in one BEAT a STIFF one is as good as none, in two it would not be
+        x = Due.laid("n0,1;mA;");
+        due.is("stiff: like(29)", x.like(29), 0);
+        due.is("stiff: like(20)", x.like(20), 20);
+        due.is("stiff: like(25)", x.like(25), 20);
+        due.is("stiff: like(30)", x.like(30), 20);
         x = Due.laid("j0;j1;j2;j3;mA;");
         due.is("all touch: like(30)", x.like(30), 0);
         due.is("all touch: like(24), muddles", x.like(24), 20);
@@ -154,6 +160,11 @@ public final class ReadingTest {
         // a TURNED wire comes right by a CONTRARY one
         orderIs("t4;n0,4;mA;", 2, 20, 1, 2, 3, 4, 0);
         orderIs("t4;n0,4;mA;", 1, 12, 1, 2, 3, 4, 0);
+        LetterNeedles x = Due.laid("mA;");
+        due.is("whole: order(1, -1)", x.order(1, -1), 20);
+        x.cut(0);
+        due.is("cut since: order(1, -1)", x.order(1, -1), 12);
+        due.is("cut since: order(1, 0)", x.order(1, 0), 0);
     }
 
     private static void wrongNumbers() {

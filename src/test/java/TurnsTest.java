@@ -29,6 +29,8 @@ public final class TurnsTest {
         duelIs("t0;mABF;", 1, 0, 1, 0, 1);
         // to CUT wire 0 would help: what is MENDED then is TURNED no more
         duelIs("t0;mAR;", 0, 0, 1, 0, 1);
+        // LAZY by 1 and 1: NOTHING between them lets D come right
+        duelIs("n0,2;mAD;", 2, 0, 2, 0, 2);
         // STIFF by 1 and 1: nothing helps
         duelIs("n0,1;mA;", 0, 0, 0, 0, 0);
         LetterNeedles x = Due.laid("n0,5;mD;");
@@ -146,5 +148,6 @@ public final class TurnsTest {
         due.is("nothing was done: count(5)", x.count(5), 1);
         x.cut(4);
         due.is("a WIRE that was CUT counts, too", x.day(0, 1, 2), 1);
+        due.is("and one more", x.day(2, 1, 2), 2);
     }
 }
