@@ -1,3 +1,6 @@
+import java.util.function.Supplier;
+import java.util.function.ToIntFunction;
+
 /** Counts the calls whose answer is not the one that is due. */
 final class Due {
     private int calls;
@@ -21,6 +24,12 @@ final class Due {
 
     void holds(String what, boolean isSo) {
         is(what, isSo ? 1 : 0, 1);
+    }
+
+    /** That a call on such an object is answered so, and that nothing has changed then. */
+    void changesNothing(String name, Supplier<LetterNeedles> made, ToIntFunction<LetterNeedles> call, int want) {
+        is(name, call.applyAsInt(made.get()), want);
+        holds(name + ": nothing has changed", Whole.isUnchangedBy(made, call));
     }
 
     void end() {
