@@ -90,7 +90,7 @@ public final class LetterNeedles {
     private final Past past = new Past();
     private final Suspects suspects = new Suspects();
     private final Hearing hearing = new Hearing();
-    private final Contest contest = new Contest(line, trial, messages);
+    private final Contest contest = new Contest();
     private final Arrangement arrangement = new Arrangement();
 
     public LetterNeedles() {
@@ -400,8 +400,8 @@ public final class LetterNeedles {
         if (!isMessage(message) || !within(n, 0, MOST_TURNS)) {
             return BAD;
         }
-        contest.beginFor(message);
-        return contest.outcome(n, true, 0, line.cutWires);
+        contest.beginFor(line, message);
+        return contest.outcome(messages, n, true, 0, line.cutWires);
     }
 
     public int odds(int sign, int x, int part) {
@@ -1120,29 +1120,23 @@ public final class LetterNeedles {
     private static final class Contest {
         private static final int UNKNOWN = -1;
 
-        private final Line start;
-        private final Line scratch;
-        private final Messages messages;
+        private final Line start = new Line();
+        private final Line scratch = new Line();
         /** By WIRES MENDED so far and WIRES CUT, which make up all that can differ: how many are RIGHT. */
         private final int[] ends = new int[1 << 2 * PLACES];
         private int message;
 
-        Contest(Line start, Line scratch, Messages messages) {
-            this.start = start;
-            this.scratch = scratch;
-            this.messages = messages;
-        }
-
-        void beginFor(int which) {
+        void beginFor(Line line, int which) {
+            start.copyFrom(line);
             Arrays.fill(ends, UNKNOWN);
             message = which;
         }
 
-        int outcome(int turns, boolean isCutting, int mended, int cutNow) {
+        int outcome(Messages messages, int turns, boolean isCutting, int mended, int cutNow) {
             if (turns <= 0) {
-                return endOf(mended, cutNow);
+                return endOf(messages, mended, cutNow);
             }
-            int best = outcome(turns - 1, !isCutting, mended, cutNow);
+            int best = outcome(messages, turns - 1, !isCutting, mended, cutNow);
             int open = isCutting ? ~cutNow : mendableBehind(mended, cutNow);
             for (int p = 0; p < PLACES; p++) {
                 int wire = 1 << p;
@@ -1150,9 +1144,9 @@ public final class LetterNeedles {
                     continue;
                 }
                 if (isCutting) {
-                    best = Math.min(best, outcome(turns - 1, false, mended, cutNow | wire));
+                    best = Math.min(best, outcome(messages, turns - 1, false, mended, cutNow | wire));
                 } else {
-                    best = Math.max(best, outcome(turns - 1, true, mended | wire, cutNow & ~wire));
+                    best = Math.max(best, outcome(messages, turns - 1, true, mended | wire, cutNow & ~wire));
                 }
             }
             return best;
@@ -1163,7 +1157,7 @@ public final class LetterNeedles {
             return scratch.mendableWires();
         }
 
-        private int endOf(int mended, int cutNow) {
+        private int endOf(Messages messages, int mended, int cutNow) {
             int key = mended << PLACES | cutNow;
             if (key < 0 || key >= ends.length) {
                 return 0;

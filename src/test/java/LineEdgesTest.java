@@ -236,14 +236,20 @@ public final class LineEdgesTest {
         LetterNeedles x = Due.laid("mA;");
         for (int p = 4; p >= 0; p--) {
             due.is("cut(" + p + ")", x.cut(p), 5 - p);
+            for (int q = 0; q < 5; q++) due.is("then wire(" + q + ", 0)", x.wire(q, 0), q >= p ? 1 : 0);
             due.is("turn(" + p + ")", x.turn(p), 5 - p);
+            for (int q = 0; q < 5; q++) due.is("then wire(" + q + ", 1)", x.wire(q, 1), q >= p ? 1 : 0);
             if (p < 4) due.is("touch(" + p + ")", x.touch(p), 4 - p);
+            for (int q = 0; q < 5; q++) due.is("then wire(" + q + ", 2)", x.wire(q, 2), q >= p && q < 4 ? 1 : 0);
         }
         due.is("all CUT", x.count(1), 5);
         due.is("all TURNED", x.count(2), 5);
         due.is("all TOUCH", x.count(3), 4);
         due.is("touch(4)", x.touch(4), LetterNeedles.BAD);
-        for (int p = 0; p < 5; p++) due.is("turn(" + p + ") back", x.turn(p), 4 - p);
+        for (int p = 0; p < 5; p++) {
+            due.is("turn(" + p + ") back", x.turn(p), 4 - p);
+            due.is("then wire(" + p + ", 1)", x.wire(p, 1), 0);
+        }
         due.is("none TURNED", x.count(2), 0);
         due.is("turn(4) once more", x.turn(4), 1);
         due.is("turn(4) back", x.turn(4), 0);

@@ -275,5 +275,12 @@ public final class SayingEdgesTest {
         orderIs("n0,1;c4;mA;", 1, 12, 1, 2, 3, 4, 0);
         orderIs("n0,3;mA;", 1, 20, 0, 1, 2, 3, 4);
         orderIs("n4,3;mA;", 1, 20, 4, 0, 1, 2, 3);
+        // from REST a LAZY or STUCK one is as a PLAIN one, a STIFF one upright for a BEAT
+        orderIs("n1,2;n3,5;mA;", 1, 20, 0, 1, 2, 3, 4);
+        orderIs("n1,1;mA;", 1, 12, 0, 1, 2, 3, 4);
+        LetterNeedles x = Due.laid("n1,2;n3,5;n4,1;mA;");
+        x.send(9);
+        x.send(9);
+        due.is("not as they stand now", x.order(1, -1), 12);
     }
 }

@@ -3,6 +3,7 @@ public final class TextEdgesTest {
     private static final Due due = new Due();
 
     public static void main(String[] args) {
+        laidAtFirst();
         lettersThatAreTold();
         twoHundredAtMost();
         wipedAndFullAgain();
@@ -77,6 +78,21 @@ public final class TextEdgesTest {
         due.is("wipe() of nothing again", x.wipe(), 0);
         for (int i = 1; i <= 200; i++) due.is("write again", x.write(';'), i);
         due.is("write the 201st again", x.write(';'), LetterNeedles.FULL);
+    }
+
+    /** "(.. at first n1,1;n3,2;j3;mQUAKER;mSLOUGH;mLATE;)", with THE TEXT empty. */
+    private static void laidAtFirst() {
+        LetterNeedles x = new LetterNeedles();
+        LetterNeedles y = Due.laid("n1,1;n3,2;j3;mQUAKER;mSLOUGH;mLATE;");
+        due.holds("NEEDLES and WIRES", Due.all(x).equals(Due.all(y)));
+        int[] many = {3, 0, 0, 1, 0, 0, 0, 0, 0, 0};
+        for (int what = 0; what < 10; what++) due.is("at first: count(" + what + ")", x.count(what), many[what]);
+        for (int message = -1; message < 4; message++) {
+            for (int k = -2; k < 9; k++) due.is("spelt(" + message + ", " + k + ")", x.spelt(message, k), y.spelt(message, k));
+        }
+        due.is("QUAKER is caught as KWAKER: K", x.spelt(0, 0), Due.sign('K'));
+        due.is("QUAKER is caught as KWAKER: W", x.spelt(0, 1), Due.sign('W'));
+        due.is("the next letter is the first one", x.write('m'), 1);
     }
 
     /** "FAULT. NONE." of an empty TEXT; "LAID is a TEXT .. of a MESSAGE at least". */
@@ -175,14 +191,17 @@ public final class TextEdgesTest {
         due.is("the last one of PLACE 4", x.needle(4, 0), 0);
     }
 
-    /** "(of all three no matter if it is told once more)". */
+    /** "(of all three no matter if it is told once more)": thrice, twice. */
     private static void toldOnceMore() {
         LetterNeedles x = Due.laid("c1;t2;j3;c1;t2;j3;t2;mA;c1;j3;");
         due.is("CUT", x.wire(1, 0), 1);
-        due.is("TURNED, though told thrice", x.wire(2, 1), 1);
+        due.is("TURNED", x.wire(2, 1), 1);
         due.is("TOUCHES", x.wire(3, 2), 1);
         for (int what = 1; what <= 3; what++) due.is("count(" + what + ")", x.count(what), 1);
-        due.is("TURNED, though told twice", Due.laid("t0;t0;mA;").wire(0, 1), 1);
+        x = Due.laid("c0;c0;t4;t4;j1;j1;mA;");
+        due.is("CUT, told twice", x.wire(0, 0), 1);
+        due.is("TURNED, told twice", x.wire(4, 1), 1);
+        due.is("TOUCHES, told twice", x.wire(1, 2), 1);
     }
 
     /** "m and one to eight letters A to Z". */
