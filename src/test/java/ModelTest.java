@@ -4,6 +4,7 @@ import java.util.Random;
 public final class ModelTest {
     private static final int RUNS = 400;
     private static final int CALLS = 512;
+    private static final int DUELLED_LINES = 1000;
     private static final int CALL_KINDS = 35;
     private static final int[] FAR = {Integer.MIN_VALUE, Integer.MAX_VALUE, -5, -4, -3, -2, 64, 100, 1 << 16};
 
@@ -22,7 +23,30 @@ public final class ModelTest {
             ModelTest test = new ModelTest(20261118L + run);
             all.holds("run " + run + " ends as the model does", test.agrees(run));
         }
+        for (int run = 0; run < DUELLED_LINES; run++) {
+            all.holds("line " + run + " is duelled for as by the model", new ModelTest(36000L + run).duelsAgree(run));
+        }
         all.end();
+    }
+
+    /** Long turns on lines of few faults, where most is won and lost: the runs above come to few of them. */
+    private boolean duelsAgree(int run) {
+        StringBuilder text = new StringBuilder();
+        int faults = 1 + random.nextInt(3);
+        for (int i = 0; i < faults; i++) {
+            char fault = "ctjjn".charAt(random.nextInt(5));
+            text.append(fault).append(random.nextInt(fault == 'j' ? 4 : 5));
+            if (fault == 'n') text.append(',').append(random.nextInt(6));
+            text.append(';');
+        }
+        addMessage(text);
+        Due.writeAll(real, text.toString());
+        for (int i = 0; i < text.length(); i++) model.write(text.charAt(i));
+        if (!same(text + " lay", real.lay(), model.lay(), run)) return false;
+        for (int n = 0; n <= 4; n++) {
+            if (!same("duel 0 " + n, real.duel(0, n), model.duel(0, n), run)) return false;
+        }
+        return true;
     }
 
     private boolean agrees(int run) {

@@ -10,6 +10,7 @@ public final class TurnEdgesTest {
 
     public static void main(String[] args) {
         turnsFromNoneToFour();
+        mendedStaysMended();
         nothingToCutOrMend();
         noneIsBetter();
         slackFromNoneToAll();
@@ -68,6 +69,14 @@ public final class TurnEdgesTest {
         due.is("the last MESSAGE", x.duel(5, 0), 3);
         due.is("the last MESSAGE, one CUT: 0 is used twice", x.duel(5, 1), 1);
         due.is("behind the last MESSAGE", x.duel(6, 0), LetterNeedles.BAD);
+    }
+
+    /** "and so on": lines on which the third and fourth turn hang on what was MENDED in the second. */
+    private static void mendedStaysMended() {
+        for (String text : new String[] {"j0;mNRSA;", "j0;mVSWR;", "j0;mXWTVYEIM;", "j0;j3;mBA;", "t0;j1;mRH;", "j0;c2;j3;mYB;", "j0;j1;j2;mEH;"}) {
+            LetterNeedles x = Due.laid(text);
+            for (int n = 0; n <= 4; n++) due.is(text + " duel(0, " + n + ")", x.duel(0, n), byTurns(text, n, ""));
+        }
     }
 
     /** "one CUTS a WIRE that is not CUT (or none), then another one MENDS one that can be (or none)". */

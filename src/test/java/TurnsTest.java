@@ -33,6 +33,12 @@ public final class TurnsTest {
         duelIs("n0,2;mAD;", 2, 0, 2, 0, 2);
         // STIFF by 1 and 1: nothing helps
         duelIs("n0,1;mA;", 0, 0, 0, 0, 0);
+        // what is MENDED in the second turn stays so in the third and fourth, whatever is CUT then
+        duelIs("j0;mNRSA;", 0, 0, 2, 1, 2);
+        duelIs("j0;mXWTVYEIM;", 1, 0, 5, 2, 5);
+        // both faults must be MENDED, so nothing comes right ahead of the fourth turn
+        duelIs("j0;j3;mBA;", 0, 0, 0, 0, 1);
+        duelIs("t0;j1;mRH;", 0, 0, 0, 0, 1);
         LetterNeedles x = Due.laid("n0,5;mD;");
         x.send(20);
         due.is("from rest", x.duel(0, 0), 1);
